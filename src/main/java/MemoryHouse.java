@@ -44,7 +44,6 @@ public final class MemoryHouse {
     private static final int OTHER = 6;
 
     private final Tape tape = new Tape();
-    private final Reader reader = new Reader();
     private final State now = new State();
     private final Teller teller = new Teller();
     private final Recall recall = new Recall(now, teller);
@@ -78,7 +77,7 @@ public final class MemoryHouse {
     }
 
     public int law() throws IllegalArgumentException, UnsupportedOperationException {
-        Text text = reader.read(tape, true);
+        Text text = tape.read(true);
         if (text == null) {
             throw new IllegalArgumentException("the text of the LAW is wrong");
         }
@@ -91,7 +90,7 @@ public final class MemoryHouse {
     }
 
     public int rule() throws IllegalArgumentException, UnsupportedOperationException {
-        Text text = reader.read(tape, false);
+        Text text = tape.read(false);
         if (text == null) {
             throw new IllegalArgumentException("the text of the RULE is wrong");
         }
@@ -104,7 +103,7 @@ public final class MemoryHouse {
     }
 
     public int fault() {
-        return reader.wrongByte;
+        return tape.wrongByte;
     }
 
     public int dull(int card, int role, int n) throws IndexOutOfBoundsException, IllegalArgumentException {
@@ -751,24 +750,6 @@ public final class MemoryHouse {
         return edge;
     }
 
-    /** The bytes that were fed and are not used up. */
-    private static final class Tape {
-        static final int MOST = 400;
-        final int[] bytes = new int[MOST];
-        int length = 0;
-
-        boolean hasRoomForFive() {
-            return length + 20 <= MOST;
-        }
-
-        void addNumber(int number) {
-            for (int shift = 24; shift >= 0 && length < MOST; shift -= 8) {
-                bytes[length] = number >>> shift & 255;
-                length++;
-            }
-        }
-    }
-
     /** A LAW or a RULE as it was read; never changed, so THE IMAGE may share it. */
     private static final class Text {
         static final int LINES_MOST = 10;
@@ -789,8 +770,9 @@ public final class MemoryHouse {
         }
     }
 
-    /** Reads a text: first all its things, then by the grammar; what is wrong is always the thing at hand. */
-    private static final class Reader {
+    /** Reads its text by its things first, then by the grammar; what is wrong is always the thing at hand. */
+    private static final class Tape {
+        static final int MOST = 400;
         /** Things: a NUMBER is itself; FACTS and TAGS stand by their place among the Teller's facts. */
         static final int FACT = 1000;
         static final int TAG = 1020;
@@ -803,7 +785,11 @@ public final class MemoryHouse {
         static final int NOT = 1045;
         static final int WRONG = 1098;
         static final int END = 1099;
+        /** Any other byte, behind this; most of them can stand nowhere. */
         static final int SIGN = 1100;
+        static final int PLUS = SIGN + '+';
+        static final int BELOW = SIGN + '<';
+        static final int ABOVE = SIGN + '>';
         private static final int DEPTH_MOST = 6;
         private static final String WORDS = "add less if and or not";
         private static final String LAW_FACTS = "seconds dull old like age gone per role";
@@ -813,21 +799,34 @@ public final class MemoryHouse {
         private static final String RULE_TAGS = "whole";
         private static final int RULE_FACT_COUNT = 4;
 
-        private final int[] things = new int[Tape.MOST + 1];
-        private final int[] begins = new int[Tape.MOST + 1];
+        private final int[] bytes = new int[MOST];
+        int length = 0;
+        private final int[] things = new int[MOST + 1];
+        private final int[] begins = new int[MOST + 1];
         private final int[] amounts = new int[Text.LINES_MOST];
         private final int[] times = new int[Text.LINES_MOST];
         private final int[] ends = new int[Text.LINES_MOST];
-        private final int[] code = new int[Tape.MOST];
+        private final int[] code = new int[MOST];
         int wrongByte = NONE;
         private int at = 0;
         private int lines = 0;
         private int written = 0;
 
+        boolean hasRoomForFive() {
+            return length + 20 <= MOST;
+        }
+
+        void addNumber(int number) {
+            for (int shift = 24; shift >= 0 && length < MOST; shift -= 8) {
+                bytes[length] = number >>> shift & 255;
+                length++;
+            }
+        }
+
         /** The text, or null if it is wrong; the TAPE is used up by both. */
-        Text read(Tape tape, boolean forLaw) {
-            split(tape, forLaw);
-            tape.length = 0;
+        Text read(boolean forLaw) {
+            split(forLaw);
+            length = 0;
             at = 0;
             lines = 0;
             written = 0;
@@ -847,27 +846,27 @@ public final class MemoryHouse {
                     Arrays.copyOf(ends, lines), Arrays.copyOf(code, written));
         }
 
-        private void split(Tape tape, boolean forLaw) {
+        private void split(boolean forLaw) {
             int count = 0;
             int from = 0;
-            for (int n = 0; n < Tape.MOST && from < tape.length; n++) {
-                int to = endOfThing(tape, from);
-                if (tape.bytes[from] != ' ') {
+            for (int n = 0; n < MOST && from < length; n++) {
+                int to = endOfThing(from);
+                if (bytes[from] != ' ') {
                     begins[count] = from;
-                    things[count] = thingOf(tape, from, to, forLaw);
+                    things[count] = thingOf(from, to, forLaw);
                     count++;
                 }
                 from = to;
             }
-            begins[count] = tape.length;
+            begins[count] = length;
             things[count] = END;
         }
 
-        private static int endOfThing(Tape tape, int from) {
-            boolean letters = isLetter(tape.bytes[from]);
-            boolean digits = isDigit(tape.bytes[from]);
+        private int endOfThing(int from) {
+            boolean letters = isLetter(bytes[from]);
+            boolean digits = isDigit(bytes[from]);
             int to = from + 1;
-            while (to < tape.length && (letters && isLetter(tape.bytes[to]) || digits && isDigit(tape.bytes[to]))) {
+            while (to < length && (letters && isLetter(bytes[to]) || digits && isDigit(bytes[to]))) {
                 to++;
             }
             return to;
@@ -881,33 +880,33 @@ public final class MemoryHouse {
             return sign >= '0' && sign <= '9';
         }
 
-        private static int thingOf(Tape tape, int from, int to, boolean forLaw) {
-            if (isLetter(tape.bytes[from])) {
-                return wordOf(tape, from, to, forLaw);
+        private int thingOf(int from, int to, boolean forLaw) {
+            if (isLetter(bytes[from])) {
+                return wordOf(from, to, forLaw);
             }
-            if (!isDigit(tape.bytes[from])) {
-                return SIGN + tape.bytes[from];
+            if (!isDigit(bytes[from])) {
+                return SIGN + bytes[from];
             }
             if (to - from > 3) {
                 return WRONG;
             }
             int number = 0;
             for (int k = from; k < to; k++) {
-                number = number * 10 + tape.bytes[k] - '0';
+                number = number * 10 + bytes[k] - '0';
             }
             return number;
         }
 
-        private static int wordOf(Tape tape, int from, int to, boolean forLaw) {
-            int word = indexIn(WORDS, tape, from, to);
+        private int wordOf(int from, int to, boolean forLaw) {
+            int word = indexIn(WORDS, from, to);
             if (word != NONE) {
                 return WORD + word;
             }
-            int fact = indexIn(forLaw ? LAW_FACTS : RULE_FACTS, tape, from, to);
+            int fact = indexIn(forLaw ? LAW_FACTS : RULE_FACTS, from, to);
             if (fact != NONE) {
                 return FACT + fact;
             }
-            int tag = indexIn(forLaw ? LAW_TAGS : RULE_TAGS, tape, from, to);
+            int tag = indexIn(forLaw ? LAW_TAGS : RULE_TAGS, from, to);
             if (tag != NONE) {
                 return TAG + (forLaw ? LAW_FACT_COUNT : RULE_FACT_COUNT) + tag;
             }
@@ -915,7 +914,7 @@ public final class MemoryHouse {
         }
 
         /** Which word of a list, with a blank between each two, stands on the TAPE there. */
-        private static int indexIn(String list, Tape tape, int from, int to) {
+        private int indexIn(String list, int from, int to) {
             int index = 0;
             int matched = 0;
             boolean same = true;
@@ -928,7 +927,7 @@ public final class MemoryHouse {
                     matched = 0;
                     same = true;
                 } else {
-                    same = same && matched < to - from && tape.bytes[from + matched] == list.charAt(k);
+                    same = same && matched < to - from && bytes[from + matched] == list.charAt(k);
                     matched++;
                 }
             }
@@ -941,7 +940,7 @@ public final class MemoryHouse {
 
         /** Never goes past the END, which is no thing that can be taken. */
         private boolean take(int thing) {
-            if (at >= Tape.MOST || things[at] != thing || thing == END) {
+            if (at >= MOST || things[at] != thing || thing == END) {
                 return false;
             }
             at++;
@@ -985,7 +984,7 @@ public final class MemoryHouse {
             if (!readAll(depth)) {
                 return false;
             }
-            for (int n = 0; n < Tape.MOST && take(OR); n++) {
+            for (int n = 0; n < MOST && take(OR); n++) {
                 if (!readAll(depth)) {
                     return false;
                 }
@@ -998,7 +997,7 @@ public final class MemoryHouse {
             if (!readAtom(depth)) {
                 return false;
             }
-            for (int n = 0; n < Tape.MOST && take(AND); n++) {
+            for (int n = 0; n < MOST && take(AND); n++) {
                 if (!readAtom(depth)) {
                     return false;
                 }
@@ -1028,7 +1027,7 @@ public final class MemoryHouse {
                 return false;
             }
             int sign = here();
-            if (sign != SIGN + '<' && sign != SIGN + '>' || !take(sign) || !readSum()) {
+            if (sign != BELOW && sign != ABOVE || !take(sign) || !readSum()) {
                 return false;
             }
             write(sign);
@@ -1036,16 +1035,16 @@ public final class MemoryHouse {
         }
 
         private boolean readSum() {
-            for (int n = 0; n < Tape.MOST; n++) {
+            for (int n = 0; n < MOST; n++) {
                 int part = here();
                 if (part >= TAG || !take(part)) {
                     return false;
                 }
                 write(part);
                 if (n > 0) {
-                    write(SIGN + '+');
+                    write(PLUS);
                 }
-                if (!take(SIGN + '+')) {
+                if (!take(PLUS)) {
                     return true;
                 }
             }
@@ -1111,37 +1110,40 @@ public final class MemoryHouse {
             int top = 0;
             for (int k = from; k < to && k < text.code.length; k++) {
                 int thing = text.code[k];
-                if (thing < Reader.WORD) {
+                if (thing < Tape.WORD) {
                     if (top < stack.length) {
-                        int fact = thing - Reader.FACT;
+                        int fact = thing - Tape.FACT;
                         stack[top] = fact < 0 || fact >= facts.length ? thing : facts[fact];
                         top++;
                     }
-                } else if (thing == Reader.NOT) {
+                } else if (thing == Tape.NOT) {
                     if (top >= 1) {
                         stack[top - 1] = 1 - stack[top - 1];
                     }
                 } else if (top >= 2) {
                     top--;
-                    stack[top - 1] = joined(thing, stack[top - 1], stack[top]);
+                    int a = stack[top - 1];
+                    int b = stack[top];
+                    switch (thing) {
+                        case Tape.AND:
+                            stack[top - 1] = a & b;
+                            break;
+                        case Tape.OR:
+                            stack[top - 1] = a | b;
+                            break;
+                        case Tape.PLUS:
+                            stack[top - 1] = a + b;
+                            break;
+                        case Tape.BELOW:
+                            stack[top - 1] = a < b ? 1 : 0;
+                            break;
+                        default:
+                            stack[top - 1] = a > b ? 1 : 0;
+                            break;
+                    }
                 }
             }
             return top == 0 || stack[0] != 0;
-        }
-
-        private static int joined(int thing, int a, int b) {
-            switch (thing) {
-                case Reader.AND:
-                    return a & b;
-                case Reader.OR:
-                    return a | b;
-                case Reader.SIGN + '+':
-                    return a + b;
-                case Reader.SIGN + '<':
-                    return a < b ? 1 : 0;
-                default:
-                    return a > b ? 1 : 0;
-            }
         }
     }
 
@@ -1827,15 +1829,10 @@ public final class MemoryHouse {
                     if (role == 0) {
                         recall.facePlace(pack, which.putting, which.placeOf(i), now.clock);
                     }
-                    addCard(law, which.cardAt(i), role);
-                }
-            }
-        }
-
-        private void addCard(Text law, int card, int role) {
-            for (int dull = 0; dull < DULLS; dull++) {
-                if ((present[role] >> dull & 1) == 1) {
-                    sums[(card * ROLES + role) * DULLS + dull] += recall.heldWith(law, role, dull);
+                    int row = (which.cardAt(i) * ROLES + role) * DULLS;
+                    for (int dull = 0; dull < DULLS; dull++) {
+                        sums[row + dull] += (present[role] >> dull & 1) == 1 ? recall.heldWith(law, role, dull) : 0;
+                    }
                 }
             }
         }

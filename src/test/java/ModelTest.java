@@ -74,10 +74,25 @@ public final class ModelTest {
             same = check("put", random.nextInt(packs), random.nextInt(Math.min(houses, 2)), random.nextInt(3),
                     1 + random.nextInt(3), 1 + random.nextInt(random.nextBoolean() ? 5 : 20));
         }
+        boolean wild = random.nextInt(8) == 0;
         while (same && calls < 470) {
-            same = step(OFTEN[random.nextInt(OFTEN.length)]);
+            String name = OFTEN[random.nextInt(OFTEN.length)];
+            same = wild && random.nextInt(3) > 0 ? stepWildly(name) : step(name);
         }
         return same;
+    }
+
+    /** Any numbers for anything: only what the document names may come of it. */
+    private boolean stepWildly(String name) {
+        int[] some = {Integer.MIN_VALUE, Integer.MAX_VALUE, Integer.MIN_VALUE + 1, -65536, -2, -1, 0, 1, 2, 3, 4, 5, 6,
+            7, 8, 9, 10, 12, 19, 20, 21, 51, 52, 53, 60, 61, 99, 100, 101, 399, 400, 5200, 5201, 9999, 10000, 99999,
+            100000, 999999, 1000000, 1000001, 1 << 30};
+        Class<?>[] types = METHODS.get(name).getParameterTypes();
+        int[] a = new int[types.length];
+        for (int k = 0; k < a.length; k++) {
+            a[k] = types[k] == boolean.class ? bit() : some[random.nextInt(some.length)];
+        }
+        return check(name, a);
     }
 
     private boolean step(String name) {
