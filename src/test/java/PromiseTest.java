@@ -1,93 +1,5 @@
-import java.util.NoSuchElementException;
-
 /** Each promise by itself: ordinary inputs, the edges that the document names, wrong inputs; all reckoned by hand. */
-public final class PromiseTest {
-    private static final int NONE = MemoryHouse.NONE;
-    private static final Class<?> OUT = IndexOutOfBoundsException.class;
-    private static final Class<?> STATE = IllegalStateException.class;
-    private static final Class<?> ARG = IllegalArgumentException.class;
-    private static final Class<?> UNSUP = UnsupportedOperationException.class;
-    private static final Class<?> NOSUCH = NoSuchElementException.class;
-    private static int wrong = 0;
-    private static int asked = 0;
-
-    private interface Call {
-        void make();
-    }
-
-    private static void due(String what, long got, long want) {
-        asked++;
-        if (got != want) {
-            wrong++;
-            System.out.println(what + ": answered " + got + ", due is " + want);
-        }
-    }
-
-    private static void due(String what, boolean got, boolean want) {
-        due(what, got ? 1 : 0, want ? 1 : 0);
-    }
-
-    private static void refused(String what, Class<?> by, Call call) {
-        asked++;
-        try {
-            call.make();
-            wrong++;
-            System.out.println(what + ": throws nothing, due is " + by.getSimpleName());
-        } catch (RuntimeException e) {
-            if (e.getClass() != by) {
-                wrong++;
-                System.out.println(what + ": throws " + e + ", due is " + by.getSimpleName());
-            }
-        }
-    }
-
-    private static void write(MemoryHouse x, String text) {
-        x.end(0);
-        for (int at = 0; at < text.length(); at += 20) {
-            int[] n = new int[5];
-            for (int k = 0; k < 20; k++) {
-                int sign = at + k < text.length() ? text.charAt(at + k) & 255 : 0;
-                n[k / 4] |= sign << (24 - 8 * (k % 4));
-            }
-            x.feed(n[0], n[1], n[2], n[3], n[4]);
-        }
-        x.end(text.length());
-    }
-
-    private static int law(MemoryHouse x, String text) {
-        write(x, text);
-        return x.law();
-    }
-
-    private static int rule(MemoryHouse x, String text) {
-        write(x, text);
-        return x.rule();
-    }
-
-    /** A law of the text is read by a new object: where it is wrong (NONE: nowhere). */
-    private static void lawFault(String text, int want) {
-        MemoryHouse x = new MemoryHouse();
-        write(x, text);
-        if (want == NONE) {
-            due("law \"" + text + "\"", x.law(), 0);
-        } else {
-            refused("law \"" + text + "\"", ARG, x::law);
-            due("no law \"" + text + "\"", x.count(5), 0);
-        }
-        due("fault of \"" + text + "\"", x.fault(), want);
-    }
-
-    private static void ruleFault(String text, int want) {
-        MemoryHouse x = new MemoryHouse();
-        write(x, text);
-        if (want == NONE) {
-            due("rule \"" + text + "\"", x.rule(), 0);
-        } else {
-            refused("rule \"" + text + "\"", ARG, x::rule);
-        }
-        due("fault of \"" + text + "\"", x.fault(), want);
-    }
-
+public final class PromiseTest extends Check {
     public static void main(String[] args) {
         newObject();
         tape();
@@ -118,10 +30,7 @@ public final class PromiseTest {
         change();
         image();
         throwsChangeNothing();
-        System.out.println(asked + " answers, " + wrong + " of them wrong");
-        if (wrong != 0) {
-            System.exit(1);
-        }
+        finish();
     }
 
     private static void newObject() {
