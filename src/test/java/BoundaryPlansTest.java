@@ -240,6 +240,25 @@ public final class BoundaryPlansTest extends Check {
         againIs(x, 1, 40, 0, 0);
     }
 
+    static void promise29_whereAndWhenItWasPut() {
+        MemoryHouse x = new MemoryHouse();
+        x.house(20);
+        x.house(20);
+        for (int k = 0; k < 3; k++) {
+            x.pack(0, 1, 3);
+        }
+        x.put(1, 1, 5, 3, 1);
+        x.put(0, 1, 5, 1, 1);
+        x.put(2, 1, 5, 3, 1);
+        x.look(1, 6, 5);
+        x.moment(10);
+        law(x, "add 20 * gone if old > 0 and old < 2");
+        law(x, "add 7 * gone if like > 0");
+        // of its doors 5, 6 and 7 one pack was put ahead at 5 alone; 5 and 6 are alike
+        due("old", x.again(0, 0, 1, 10, true), 20);
+        due("like", x.again(1, 0, 1, 10, true), 14);
+    }
+
     static void promise29_nothingIsChanged() {
         leaves(Rooms::rich, x -> x.again(0, 0, 2, 100, false));
     }
@@ -318,6 +337,18 @@ public final class BoundaryPlansTest extends Check {
         MemoryHouse y = by("add 10 if per > 2 and per < 4 and seconds > 59");
         due("per 3, 60 seconds", y.houses(0, 1, 60, 10), 1);
         due("59 seconds", y.houses(0, 1, 59, 10), NONE);
+    }
+
+    static void promise30_whateverWasAskedBefore() {
+        MemoryHouse x = Rooms.one(3, 1, 60);
+        law(x, "add 10 if dull + like + age + gone + role < 1 and not first and not last");
+        x.go(0, 60);
+        x.later(100);
+        x.dull(0, 0, 9);
+        due("the first place", x.holds(0, 0, 0), 0);
+        due("behind it", x.houses(0, 1, 1, 10), 1);
+        due("the last place", x.holds(0, 0, 2), 0);
+        due("behind it", x.houses(0, 1, 1, 10), 1);
     }
 
     static void promise30_whateverThereIs() {
@@ -476,6 +507,16 @@ public final class BoundaryPlansTest extends Check {
         x.put(1, 0, 2, 3, 1);
         // the other one is at door 2 alone
         perIs(x, 60, 2, 150);
+    }
+
+    static void promise32_noAgeAndNeverGoneAtEachPlace() {
+        perIs(room(20, 20, "add 51;less 1 * age;less 1 * per"), 20, 1, 1000);
+        MemoryHouse x = Rooms.one(3, 1, 1);
+        law(x, "add 50;less 5 * gone");
+        x.go(0, 1);
+        x.moment(1);
+        x.again(0, 0, 1, 1, true);
+        due("gone, and asked of being gone again", x.per(0, 0, 0, 60, true), 150);
     }
 
     static void promise32_oldOfOthersPutAheadAndBehind() {
@@ -686,6 +727,15 @@ public final class BoundaryPlansTest extends Check {
         due("pack 2 is not put", x.last(0, 4, 10), NONE);
         due("bits of none", x.last(0, ~15, 10), NONE);
         due("no packs", by("").last(0, -1, 10), NONE);
+    }
+
+    static void promise34_allTheBitsOfEightPacks() {
+        MemoryHouse x = Rooms.full();
+        due("all of eight, as old as can be", x.last(0, 255, 10), 0);
+        due("all bits", x.last(0, -1, 10), 0);
+        due("the last one", x.last(0, 128, 10), 7);
+        due("the last one and bits of none", x.last(0, ~127, 10), 7);
+        due("bits of none", x.last(0, ~255, 10), NONE);
     }
 
     static void promise34_packsThatAreNotPutCountForNothing() {
@@ -997,6 +1047,13 @@ public final class BoundaryPlansTest extends Check {
         ratesAre(weeks(0, 50, 75, 0), 100, 0, NONE, NONE, NONE, NONE);
     }
 
+    static void promise38_nextWeekOfTheGreatestOfTwo() {
+        // 75 by 50 of 150, 76 by 51; next 112 and 113
+        ratesAre(weeks(0, 75), 150, 2, 50, 51, 112, 113);
+        // towards below: 75 by 50, 73 by 51 is none, 76 by 49
+        ratesAre(weeks(150, 75), 0, 2, 49, 50, 37, 38);
+    }
+
     static void promise38_twentyWeeks() {
         MemoryHouse x = new MemoryHouse();
         for (int k = 0; k < 20; k++) {
@@ -1043,6 +1100,15 @@ public final class BoundaryPlansTest extends Check {
         due("a wrong one counts as a blank", x.dullest(), 51);
         x.say(0, 2, 51);
         due("none", x.dullest(), NONE);
+    }
+
+    static void promise39_askedBeforeCountsForNothing() {
+        MemoryHouse x = Rooms.one(3, 1, 1);
+        due("0", x.dullest(), 0);
+        x.pack(20, 1, 3);
+        x.put(1, 0, 3, 1, 1);
+        due("all are blank once of once", x.dullest(), 0);
+        due("and still", x.dullest(), 0);
     }
 
     static void promise39_inPartOfAllTimes() {
@@ -1121,6 +1187,24 @@ public final class BoundaryPlansTest extends Check {
         due("50 and 51", x.change(0), 52 * 50 + 51);
     }
 
+    static void promise40_theLastCardInTheLastRole() {
+        MemoryHouse x = new MemoryHouse();
+        x.house(1);
+        x.pack(49, 1, 3);
+        x.put(0, 0, 0, 3, 1);
+        law(x, "add 50;less 1 * dull");
+        due("none is dull", x.change(0), NONE);
+        x.dull(51, 2, 9);
+        due("0 and 51", x.change(0), 51);
+        for (int card = 0; card < 49; card++) {
+            x.dull(card, 2, 9);
+        }
+        // 49 and 50 are no whoms, and not dull as one
+        due("49 and 51", x.change(0), 52 * 49 + 51);
+        x.dull(49, 2, 8);
+        due("50 and 51", x.change(0), 52 * 50 + 51);
+    }
+
     static void promise40_heldTo0And100() {
         MemoryHouse x = Rooms.one(3, 1, 1);
         law(x, "add 200;less 10 * dull");
@@ -1130,6 +1214,31 @@ public final class BoundaryPlansTest extends Check {
         due("from 0 to 10, by the first that is not dull and not there", x.change(1), 3);
         x.dull(1, 0, 2);
         due("both from 0: the first", x.change(1), 3);
+    }
+
+    static void promise40_eightPacks() {
+        MemoryHouse x = Rooms.full();
+        due("a law without dull", x.change(0), NONE);
+        x.dull(1, 0, 9);
+        due("still", x.change(2), NONE);
+    }
+
+    static void promise40_eachPlaceByItself() {
+        MemoryHouse x = Rooms.one(6, 2, 1);
+        law(x, "add 50;less 5 * dull if last");
+        law(x, "add 50;less 5 * dull if first");
+        law(x, "add 50;less 5 * dull if not first and not last");
+        x.dull(4, 0, 9);
+        x.dull(5, 1, 8);
+        x.dull(2, 0, 3);
+        // 0 and 1 at the first place, 2 and 3 at the middle one, 4 and 5 at the last one: of 4 and 5 each helps the other
+        due("by the last place: 4 and 5", x.change(0), 52 * 4 + 5);
+        due("by the first place: none is dull there", x.change(1), NONE);
+        due("by the middle place: 0 and 2", x.change(2), 2);
+        x.dull(4, 0, 0);
+        due("by the last place then: 0 and 5", x.change(0), 5);
+        x.dull(1, 1, 2);
+        due("by the first place then: 0 and 1", x.change(1), 1);
     }
 
     static void promise40_bothCardsCount() {
@@ -1306,6 +1415,61 @@ public final class BoundaryPlansTest extends Check {
         due("law 0", x.holds(0, 0, 0), 1);
         due("rule 1 anew", rule(x, "add 4"), 1);
         due("its own", x.score(1, 0), 4);
+    }
+
+    static void promise42_looksAndTheTableAreThoseOfTheImage() {
+        MemoryHouse x = Rooms.one(3, 1, 1);
+        x.look(0, 0, 9);
+        x.dull(51, 2, 9);
+        x.image();
+        x.look(0, 0, 1);
+        x.look(0, 19, 0);
+        x.dull(51, 2, 1);
+        x.back();
+        due("door 0 is like 9 and 19, no longer like 10", x.unlike(1, true), 11);
+        due("nor like door 1", x.about(0, 0, 5), 0);
+        due("dull", x.dull(51, 2, 0), 9);
+    }
+
+    static void promise42_momentsAreThoseOfTheImage() {
+        MemoryHouse x = Rooms.one(3, 1, 1);
+        law(x, "add 90;less 1 * age");
+        x.moment(10);
+        x.moment(20);
+        x.image();
+        x.moments();
+        x.moment(5);
+        x.moment(500);
+        x.moment(501);
+        x.back();
+        due("two", x.count(8), 2);
+        refused("19 is ahead of the last", ARG, () -> x.again(0, 0, 1, 19, false));
+        due("20 is not", x.again(0, 0, 1, 20, false), 2);
+        refused("20 is not above it", ARG, () -> x.moment(20));
+        due("21 is", x.moment(21), 3);
+        MemoryHouse y = Rooms.one(3, 1, 1);
+        y.image();
+        y.moment(9);
+        y.back();
+        due("none", y.moments(), 0);
+    }
+
+    static void promise42_aPackThatWasGoneIsNotIfPutAnew() {
+        MemoryHouse x = new MemoryHouse();
+        x.house(1);
+        x.pack(0, 1, 3);
+        x.image();
+        x.put(0, 0, 0, 3, 1);
+        x.go(0, 1);
+        x.go(0, 1);
+        x.back();
+        due("the clock", x.count(4), 0);
+        x.put(0, 0, 0, 3, 1);
+        due("once", x.go(0, 1), 1);
+        x.image();
+        x.go(0, 1);
+        x.back();
+        due("twice again", x.go(0, 1), 2);
     }
 
     static void promise42_theOrderOfPutting() {

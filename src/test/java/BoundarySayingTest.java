@@ -177,6 +177,18 @@ public final class BoundarySayingTest extends Check {
         due("roles", x.awaited(1, 0), 6 + 6 + 1);
     }
 
+    static void promise17_dullInEachRole() {
+        MemoryHouse x = Rooms.one(5, 3, 1);
+        law(x, "add 50;less 5 * dull");
+        x.dull(1, 1, 4);
+        x.dull(3, 0, 2);
+        x.dull(3, 1, 9);
+        x.dull(2, 2, 9);
+        x.dull(0, 2, 7);
+        // 1 is a what, 3 a who, 2 a whom, 0 no whom
+        due("20, 10 and 45 less", x.awaited(0, 0), 250 - 75);
+    }
+
     // Promise 18
 
     static void promise18_noSuchPack() {
@@ -400,6 +412,26 @@ public final class BoundarySayingTest extends Check {
         y.pack(0, 1, 3);
         y.put(2, 0, 0, 3, 1);
         due("right ahead of ghost", y.say(2, 0, 0), 0);
+    }
+
+    static void promise19_toTheLastDoorOfTheLastHouse() {
+        MemoryHouse x = new MemoryHouse();
+        for (int k = 0; k < 6; k++) {
+            x.house(20);
+        }
+        x.pack(0, 1, 20);
+        x.put(0, 5, 0, 1, 1);
+        x.pack(30, 1, 3);
+        x.put(1, 5, 19, 3, 1);
+        due("door 9 is like door 19", x.say(0, 19, 9), 3);
+        due("one place back", x.say(0, 19, 18), 5);
+        due("none on", x.say(0, 19, 0), 6);
+        x.look(5, 9, 0);
+        due("no other is like door 19", x.say(0, 19, 9), 6);
+        due("the ghost at door 19", x.say(1, 0, 19), 2);
+        due("no ghost as a what", x.say(1, 1, 19), 6);
+        due("like", x.about(0, 19, 5), 0);
+        due("old", x.about(1, 0, 4), 1);
     }
 
     static void promise19_byTheLooksOfNow() {

@@ -7,6 +7,8 @@ public final class BoundaryTextsTest extends Check {
     private static final String[] LAW_TAGS = {"first", "last"};
     private static final String[] RULE_FACTS = {"right", "wrong", "blank", "cards"};
     private static final String[] RULE_TAGS = {"whole"};
+    private static final String[] WORDS = {"add", "less", "if", "and", "or", "not", "seconds", "dull", "old", "like",
+        "age", "gone", "per", "role", "first", "last", "right", "wrong", "blank", "cards", "whole"};
 
     public static void main(String[] args) {
         runByName(BoundaryTextsTest.class, 1, 6);
@@ -452,6 +454,50 @@ public final class BoundaryTextsTest extends Check {
         lawFault("a".repeat(400), 0);
     }
 
+    static void promise04_zIsTheLastLetter() {
+        lawFault("addz 5", 0);
+        lawFault("add 5 * agez", 8);
+        lawFault("zadd 5", 0);
+        lawFault("add 5 z", 6);
+    }
+
+    /** A word that breaks off where a tape of 400 ends is none, unless it is one. */
+    static void promise04_wordsAtTheEndOfAFullTape() {
+        for (String word : WORDS) {
+            for (int length = 1; length <= word.length(); length++) {
+                String part = word.substring(0, length);
+                boolean begins = part.equals("add") || part.equals("less");
+                bothFault(" ".repeat(400 - length) + part, begins ? 400 : 400 - length);
+                bothFault("add 5" + " ".repeat(395 - length) + part, part.equals("if") ? 400 : 400 - length);
+            }
+        }
+        for (int length = 1; length <= 5; length++) {
+            String text = "add 5 if " + "first".substring(0, length);
+            lawFault(" ".repeat(400 - text.length()) + text, length < 5 ? 400 - length : NONE);
+            text = "add 5 if " + "whole".substring(0, length);
+            ruleFault(" ".repeat(400 - text.length()) + text, length < 5 ? 400 - length : NONE);
+        }
+        lawFault(" ".repeat(388) + "add 5 * role", NONE);
+        lawFault(" ".repeat(389) + "add 5 * rol", 397);
+    }
+
+    static void promise04_asManyThingsAsTheTapeHasBytes() {
+        for (String sign : new String[] {"+", ";", "(", "?"}) {
+            bothFault(sign.repeat(400), 0);
+            bothFault("add 5" + sign.repeat(395), sign.equals(";") ? 6 : 5);
+        }
+    }
+
+    static void promise04_anAndOrAnOrWantsMore() {
+        bothFault("add 5 if 1 < 2 or", 17);
+        bothFault("add 5 if 1 < 2 and", 18);
+        bothFault("add 5 if 1 < 2 or 1 < 2 and", 27);
+        bothFault("add 5 if 1 < 2 or ;add 5", 18);
+        bothFault("add 5 if 1 < 2 and ;add 5", 19);
+        bothFault("add 5 if (1 < 2 or )", 19);
+        bothFault("add 5 if (1 < 2 and )", 20);
+    }
+
     static void promise04_wordsAreAsLongAsLettersGoOn() {
         lawFault("add5*age", NONE);
         lawFault("add5if first", NONE);
@@ -588,6 +634,16 @@ public final class BoundaryTextsTest extends Check {
         due("not of brackets", told("add 9 if not (1 < 0 and 1 < 0)"), 9);
     }
 
+    static void promise04_notOfATag() {
+        MemoryHouse x = Rooms.one(4, 3, 1);
+        law(x, "add 9 if not last");
+        law(x, "add 9 if not first");
+        due("not the last place", x.holds(0, 0, 0), 9);
+        due("the last place", x.holds(0, 0, 3), 0);
+        due("the first place", x.holds(1, 0, 0), 0);
+        due("not the first place", x.holds(1, 0, 3), 9);
+    }
+
     static void promise04_deepAndWideAtOnce() {
         // as much waits at each depth as can: an or, an and, and a comparison at the deepest
         String deep = "1<0 or 0<1 and (".repeat(6) + "1<0 or 0<1 and 1+1<1+1+1" + ")".repeat(6);
@@ -703,6 +759,12 @@ public final class BoundaryTextsTest extends Check {
         due("cards", scored("add 1 * cards", 3, 1), 5);
         due("whole at 4 of 5", scored("add 1 if whole", 4, 0), 0);
         due("whole at 5 of 5", scored("add 1 if whole", 5, 0), 1);
+    }
+
+    static void promise05_notWhole() {
+        due("4 of 5", scored("add 9 if not whole", 4, 0), 9);
+        due("5 of 5", scored("add 9 if not whole", 5, 0), 0);
+        due("not not", scored("add 9 if not not whole", 5, 0), 9);
     }
 
     // Promise 6
