@@ -1231,7 +1231,7 @@ public final class BoundaryPlansTest extends Check {
         x.dull(4, 0, 9);
         x.dull(5, 1, 8);
         x.dull(2, 0, 3);
-        // 0 and 1 at the first place, 2 and 3 at the middle one, 4 and 5 at the last one: of 4 and 5 each helps the other
+        // 0 and 1 at the first place, 2 and 3 at the middle one, 4 and 5 at the last one, where each helps the other
         due("by the last place: 4 and 5", x.change(0), 52 * 4 + 5);
         due("by the first place: none is dull there", x.change(1), NONE);
         due("by the middle place: 0 and 2", x.change(2), 2);

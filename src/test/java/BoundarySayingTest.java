@@ -19,7 +19,7 @@ public final class BoundarySayingTest extends Check {
         return x.holds(law(x, text), 0, i);
     }
 
-    /** Pack 0 of 3 cards at door 0, then pack 1 (20 and on), two to a place at doors 0 to 2, the last like the first. */
+    /** Pack 0 of 3 cards at door 0, then pack 1 (20 and on) by twos at doors 0 to 2, the last like the first. */
     private static MemoryHouse slips() {
         MemoryHouse x = new MemoryHouse();
         x.house(20);
@@ -307,6 +307,33 @@ public final class BoundarySayingTest extends Check {
         due("what pack 1 has there as a what", x.say(0, 1, 21), 6);
     }
 
+    static void promise19_noGhostOfAPackThatIsNotPut() {
+        MemoryHouse x = new MemoryHouse();
+        x.house(20);
+        for (int k = 0; k < 3; k++) {
+            x.pack(20 * k, 1, 3);
+        }
+        x.image();
+        x.put(2, 0, 0, 1, 1);
+        x.back();
+        x.put(0, 0, 5, 1, 1);
+        x.put(1, 0, 0, 1, 1);
+        due("pack 0 was put elsewhere, pack 2 no longer is", x.say(1, 0, 40), 6);
+        due("pack 0", x.say(1, 0, 0), 6);
+        due("not old", x.about(1, 0, 4), 0);
+        MemoryHouse y = new MemoryHouse();
+        y.house(20);
+        y.pack(0, 1, 3);
+        y.pack(20, 1, 3);
+        y.pack(40, 1, 3);
+        y.put(2, 0, 9, 1, 1);
+        y.put(1, 0, 0, 1, 1);
+        due("pack 0 was never put", y.say(1, 0, 0), 6);
+        due("nor is it old", y.about(1, 0, 4), 0);
+        due("pack 2 is at another door", y.say(1, 0, 40), 6);
+        due("that is not old here", y.about(1, 2, 4), 0);
+    }
+
     static void promise19_theGhostIsOfTheLatestPackWithTheRole() {
         MemoryHouse x = new MemoryHouse();
         x.house(20);
@@ -547,7 +574,8 @@ public final class BoundarySayingTest extends Check {
     static void promise20_seedsGoRound() {
         MemoryHouse x = Rooms.one(4, 2, 1);
         law(x, "add 50");
-        for (int seed : new int[] {0, 1, -1, LEAST, MOST, LEAST + 1, MOST - 1, 65535, 65536, -65536, 1 << 30, 0xABCD1234}) {
+        int[] seeds = {0, 1, -1, LEAST, MOST, LEAST + 1, MOST - 1, 65535, 65536, -65536, 1 << 30, 0xABCD1234};
+        for (int seed : seeds) {
             checkRun(x, 50, seed);
         }
     }

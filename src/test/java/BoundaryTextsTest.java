@@ -600,6 +600,108 @@ public final class BoundaryTextsTest extends Check {
         lawFault("add 5 if first if", 15);
     }
 
+    /** Things of a text, and behind them a letter for each: what else can stand in its stead. */
+    private static final String[][] THINGS = {
+        {"add 5 * FACT if not ( TAG or FACT + 1 < 2 ) and TAG ; less 3 ", "BNTFIAAAJAQPQPKOAOBNT"},
+        {"less 5 if FACT > 7 + FACT and ( not 3 < FACT or ( TAG ) ) ; add 9 * FACT ", "BNTAQPLPLAAAQPKAAJJOBNTFI"},
+    };
+
+    /** What can stand where a letter of THINGS is told; FACT and TAG are any of the text's kind. */
+    private static String standing(char where) {
+        switch (where) {
+            case 'B':
+                return " add less ";
+            case 'N':
+                return " 5 ";
+            case 'T':
+                return " * if ; ";
+            case 'F':
+                return " FACT ";
+            case 'I':
+                return " if ; ";
+            case 'A':
+                return " not ( TAG FACT 5 ";
+            case 'P':
+                return " FACT 5 ";
+            case 'Q':
+                return " + < > ";
+            case 'J':
+                return " and or ) ";
+            case 'K':
+                return " + and or ) ";
+            case 'L':
+                return " + and or ; ";
+            default:
+                return " and or ; ";
+        }
+    }
+
+    private static String kindOf(String thing, String[] facts, String[] tags) {
+        for (String fact : facts) {
+            if (fact.equals(thing)) {
+                return "FACT";
+            }
+        }
+        for (String tag : tags) {
+            if (tag.equals(thing)) {
+                return "TAG";
+            }
+        }
+        return thing;
+    }
+
+    /** Where a law or a rule of the text is wrong. */
+    private static int faultOf(String text, boolean asLaw) {
+        MemoryHouse x = new MemoryHouse();
+        write(x, text);
+        return after(() -> x, asLaw ? MemoryHouse::law : MemoryHouse::rule).fault();
+    }
+
+    private static void eachThingInEachPlace(boolean asLaw) {
+        String[] facts = asLaw ? LAW_FACTS : RULE_FACTS;
+        String[] tags = asLaw ? LAW_TAGS : RULE_TAGS;
+        for (String[] row : THINGS) {
+            String text = row[0].replace("FACT", facts[0]).replace("TAG", tags[0]);
+            int begin = 0;
+            for (char where : row[1].toCharArray()) {
+                for (String thing : (String.join(" ", WORDS) + " 5 * ; ( ) + < > ? 1234").split(" ")) {
+                    boolean can = standing(where).contains(" " + kindOf(thing, facts, tags) + " ");
+                    String tried = text.substring(0, begin) + thing;
+                    int fault = faultOf(tried, asLaw);
+                    due("\"" + tried + "\" is wrong in " + fault, fault == begin, !can);
+                    due("\"" + tried + "\" is wrong in " + fault + ", or wants more", fault == begin
+                            || fault == NONE || fault == tried.length(), true);
+                }
+                begin = text.indexOf(' ', begin) + 1;
+            }
+        }
+    }
+
+    static void promise04_eachThingInEachPlace() {
+        eachThingInEachPlace(true);
+    }
+
+    static void promise05_eachThingInEachPlace() {
+        eachThingInEachPlace(false);
+    }
+
+    static void promise04_noFactForANumberAndNoWordForATag() {
+        for (String fact : LAW_FACTS) {
+            lawFault("add " + fact, 4);
+            lawFault("less " + fact + " * " + fact, 5);
+        }
+        for (String fact : RULE_FACTS) {
+            ruleFault("add " + fact, 4);
+            ruleFault("less " + fact + " * " + fact, 5);
+        }
+        for (String word : new String[] {"add", "less", "if", "and", "or"}) {
+            bothFault("add 5 if " + word, 9);
+            bothFault("add 5 if not " + word, 13);
+            bothFault("add 5 * " + word, 8);
+            bothFault("add " + word, 4);
+        }
+    }
+
     static void promise04_belowAndAboveAtTheEdge() {
         due("7 < 7", told("add 9 if seconds < 7"), 0);
         due("7 < 8", told("add 9 if seconds < 8"), 9);
