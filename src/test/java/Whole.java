@@ -12,7 +12,7 @@ final class Whole {
     private static final int CARDS_LOOKED_AT = 8;
     private static final List<BiConsumer<MemoryHouse, List<String>>> PARTS = List.of(Whole::counts, Whole::cards,
             Whole::about, Whole::table, Whole::looks, Whole::holds, Whole::sayings, Whole::chances, Whole::weeks,
-            Whole::moments);
+            Whole::moments, Whole::packsPutThen);
 
     private Whole() {
     }
@@ -161,6 +161,22 @@ final class Whole {
             }
         }
         seen.add("moments were " + x.moments());
+    }
+
+    /** What a pack that is not put has kept is seen when it is put. */
+    private static void packsPutThen(MemoryHouse x, List<String> seen) {
+        for (int pack = 0; pack < x.count(2); pack++) {
+            int which = pack;
+            see(seen, "places of pack " + pack, () -> x.put(which, 0, 0, 3, 1));
+            see(seen, "blanks of pack " + pack, () -> x.kinds(which, 1));
+            for (int i = 0; i < CARDS_LOOKED_AT; i++) {
+                int place = i;
+                see(seen, "said then for card " + i + " of pack " + pack, () -> x.about(which, place, 7));
+                see(seen, "its age then", () -> x.about(which, place, 3));
+            }
+            see(seen, "awaited then of pack " + pack, () -> x.awaited(0, which));
+            see(seen, "gone then, pack " + pack, () -> x.go(which, 1));
+        }
     }
 
     private static void tapeAsLaw(MemoryHouse x, List<String> seen) {
