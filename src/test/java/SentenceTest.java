@@ -430,14 +430,15 @@ public final class SentenceTest extends Check {
 
     static void promise19_theGhostOfTheLatestWhateverItsNumber() {
         int[][] orders = {{0, 1, 2}, {0, 2, 1}, {1, 0, 2}, {1, 2, 0}, {2, 0, 1}, {2, 1, 0}};
-        for (int[] order : orders) {
+        for (int k = 0; k < 12; k++) {
+            int[] order = orders[k / 2];
             MemoryHouse x = new MemoryHouse();
-            x.house(1);
-            for (int k = 0; k < 3; k++) {
-                x.pack(45 - 20 * k, 1, 3);
+            x.house(20);
+            for (int pack = 0; pack < 3; pack++) {
+                x.pack(45 - 20 * pack, 1, 3);
             }
             for (int pack : order) {
-                x.put(pack, 0, 0, 3, 1);
+                x.put(pack, 0, k % 2 == 0 ? 0 : 19, 3, 1);
             }
             due("the second one's", x.say(order[2], 1, 45 - 20 * order[1] + 1), 2);
             due("not the first one's", x.say(order[2], 1, 45 - 20 * order[0] + 1), 6);
@@ -461,6 +462,13 @@ public final class SentenceTest extends Check {
                 due("of place 0", x.say(0, role, 6 + role), 3);
                 due("of place 2", x.say(0, 6 + role, role), 3);
                 due("none is like place 1", x.say(0, 3 + role, role), 6);
+            }
+            x.pack(40, 1, 6);
+            x.look(house, 2, 8);
+            x.put(1, house, 1, 3, 1);
+            for (int role = 0; role < 3; role++) {
+                due("of two places the other", x.say(1, role, 43 + role), 3);
+                due("and the one", x.say(1, 3 + role, 40 + role), 3);
             }
         }
     }
@@ -703,6 +711,9 @@ public final class SentenceTest extends Check {
         due("sum", x.per(2, 3, 1, 12, true), 287);
         due("by 7 each", x.per(0, 3, 2, 12, false), 1);
         due("sum", x.per(0, 3, 2, 12, true), 35);
+        // pack 2 by 3 places, 4 seconds at each: 31 each, roles, the first three and the last one
+        due("pack 2 in house 0", x.per(2, 2, 0, 12, false), 3);
+        due("sum", x.per(2, 2, 0, 12, true), 7 * 31 + 2 * (3 + 6) + 3 * 40 - 5);
     }
 
     static void promise32_oldOfPack0() {
